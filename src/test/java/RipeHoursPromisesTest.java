@@ -364,7 +364,16 @@ public final class RipeHoursPromisesTest {
         x.pass(50);
         due("practice at 0", x.skill(0, 0, 0), 0);
         due("what is too little to decay", x.member(0, 1), 9);
+        x.set(3, 100);
+        x.donate(0, 8);
+        due("the last minute decays", x.decayIn(0, 1), 1);
+        due("the last minutes of two decay", x.pass(1), 2);
         due("saved states", x.count(13), 6);
+
+        x = new RipeHours();
+        join(8);
+        due("all of eight members", x.pass(5), 96);
+        dueMember(7, 1, 108, 120, 5);
     }
 
     private static void passingAtTheLimits() {
@@ -481,6 +490,19 @@ public final class RipeHoursPromisesTest {
         due("vote(3, true), two of 3", x.vote(3, true), 1);
         due("forgiven", x.member(0, 10), 50);
         due("the sum that was forgiven", x.count(3), 50);
+        due("saved states", x.count(13), 6);
+
+        x = new RipeHours();
+        joinBare(2);
+        x.give(0, 1, 0, 50);
+        x.move(1, 50);
+        due("saved states", x.count(13), 5);
+        due("vote(0, false), the only other one", x.vote(0, false), 2);
+        due("saved states", x.count(13), 6);
+        dueMotion(NONE, 0, 0, 0);
+        x.move(1, 50);
+        due("vote(0, true), the only other one", x.vote(0, true), 1);
+        due("balance", x.member(1, 1), 0);
     }
 
     private static void votingAfterAGift() {
@@ -488,6 +510,7 @@ public final class RipeHoursPromisesTest {
         x.give(1, 0, 0, 50);
         x.move(0, 50);
         x.give(0, 1, 0, 80);
+        due("not a debt any more", x.member(0, 1), 30);
         due("vote(1, true)", x.vote(1, true), 1);
         due("forgiven whatever the balance is", x.member(0, 1), 80);
         due("votes of one", x.member(0, 10), 50);
@@ -511,6 +534,10 @@ public final class RipeHoursPromisesTest {
         due("balance", x.member(0, 1), -50);
         x.move(0, 50);
         due("member(1, 11)", x.member(1, 11), 1);
+        x.vote(1, false);
+        x.vote(3, true);
+        due("takeBack() of one vote for it and one against it", x.takeBack(), 2);
+        x.move(0, 50);
         due("takeBack() again", x.takeBack(), 0);
         due("saved states", x.count(13), 6);
         x.undo();
@@ -594,6 +621,12 @@ public final class RipeHoursPromisesTest {
         due("deals after undo()", x.count(5), 0);
         due("balance after undo()", x.member(0, 1), 0);
         due("undo() lets the buffer be", x.clearBuffer(), 6);
+        type("a>b0:100;a>b0:100;a>b0:100;b>a0:100;b>a0:100;b>c0:10;c>a0:12");
+        due("firstError()", x.firstError(), 60);
+        due("run() of 60 signs", x.run(), 7);
+        due("balance", x.member(0, 1), 300 - 200 - 12);
+        due("balance", x.member(1, 1), 200 + 10 - 300);
+        due("balance", x.member(2, 1), 12 - 10);
     }
 
     private static void runningWhatIsRefused() {
@@ -750,6 +783,7 @@ public final class RipeHoursPromisesTest {
         dueThrow("count(-1)", ARGUMENT, () -> x.count(-1));
         dueThrow("count(14)", ARGUMENT, () -> x.count(14));
         join(5);
+        dueCounts(5, 5, -600, 0, 0, 0, 600, 0, 600, NONE, 0, 0, 0, 5);
         x.give(0, 1, 0, 300);
         x.give(2, 3, 1, 150);
         x.donate(4, 20);
@@ -761,6 +795,10 @@ public final class RipeHoursPromisesTest {
         dueCounts(5, 4, -600 + 120 + 75 + 20 + 100, 0, 3, 2, 300 + 195, -180 - 30, 0 + 120 + 45 + 120, 1, 170, 1, 1, 6);
         x.vote(3, true);
         dueCounts(5, 4, -285, 170, 3, 2, 495, -40, 285, NONE, 0, 0, 0, 6);
+        x.give(3, 0, 1, 400);
+        due("the sum of those above 0", x.count(6), 195 + 250);
+        x.give(3, 0, 1, 100);
+        due("the sum of those below 0", x.count(7), -210 - 10);
     }
 
     private static void settings() {
@@ -865,6 +903,15 @@ public final class RipeHoursPromisesTest {
         x.leave(2);
         x.leave(0);
         due("without others", x.cheapest(1, 0, 1), NONE);
+
+        x = new RipeHours();
+        joinBare(8);
+        for (int i = 0; i < 7; i++) {
+            x.give(i, 7, 0, 20);
+            x.give(7, i, 1, 19);
+        }
+        due("of eight", x.cheapest(6, 0, 60), 7);
+        due("of eight", x.cheapest(7, 0, 60), 0);
     }
 
     private static void decays() {
@@ -1030,6 +1077,13 @@ public final class RipeHoursPromisesTest {
         x.set(3, 50);
         x.pass(7);
         due("digest()", x.digest(), due31(digestByCalls(), 0));
+        joinBare(1);
+        for (int room = 58; room <= 120; room++) {
+            x.set(0, room);
+            due("digest() where " + room + " are the limit", x.digest(), due31(digestByCalls(), 0));
+        }
+        join(3);
+        due("digest() of eight", x.digest(), due31(digestByCalls(), 0));
         long before = x.digest();
         due("nothing is changed", x.digest(), before);
     }
