@@ -98,6 +98,13 @@ public final class RipeHoursAnswersTest extends SentenceChecks {
             due("after 1", x.donate(0, 1), 998);
             due("after all", x.donate(0, 998), 0);
         });
+        holds("donate: member: the number of the member (when others have left)", () -> {
+            join(x, 3);
+            x.leave(0);
+            due("of the last one", x.donate(2, 20), 100);
+            due("of the one between", x.donate(1, 120), 0);
+            due("the common account", x.count(2), -100);
+        });
     }
 
     // ---- Promises 6 and 7
@@ -361,6 +368,15 @@ public final class RipeHoursAnswersTest extends SentenceChecks {
             due("balance", balance(2), -1);
             dueRun("a>b2:1;a>b3:1", 1);
         });
+        holds("run: a deal that is refused (by its value in its skill)", () -> {
+            joinBare(x, 2);
+            x.give(0, 1, 3, 300);
+            x.set(0, 310);
+            dueRun("a>b3:10", 0);
+            dueRun("a>b4:10", 1);
+            x.set(0, 321);
+            dueRun("a>b3:10;a>b0:1", 1);
+        });
         holds("run: and clears the buffer", () -> {
             joinBare(x, 2);
             dueRun("a>b0:1", 1);
@@ -578,11 +594,17 @@ public final class RipeHoursAnswersTest extends SentenceChecks {
             x.give(2, 3, 0, 50);
             due("above 0", x.count(6), 51);
             due("below 0", x.count(7), -51);
+            x.give(1, 0, 0, 3);
+            x.give(3, 2, 0, 100);
+            due("above 0", x.count(6), 2 + 50);
+            due("below 0", x.count(7), -2 - 50);
         });
         holds("count: 8: the sum of what is left of the loans", () -> {
             join(x, 3);
             x.give(0, 1, 0, 100);
             due("loans", x.count(8), 70 + 120 + 120);
+            x.donate(1, 5);
+            due("loans after donate()", x.count(8), 70 + 120 + 120);
             x.leave(2);
             due("loans when one has left", x.count(8), 70 + 120);
         });
@@ -727,6 +749,37 @@ public final class RipeHoursAnswersTest extends SentenceChecks {
             due("of 10 minutes in a skill of nobody", x.cheapest(0, 4, 10), 1);
             due("of 10 minutes at 12 and 10", x.cheapest(2, 3, 10), 1);
         });
+        holds("cheapest: the one whose value is least (each skill of each member has its own)", () -> {
+            joinBare(x, 5);
+            x.set(0, 9999);
+            x.give(1, 0, 2, 300);
+            x.give(3, 0, 2, 600);
+            x.give(1, 0, 3, 600);
+            x.give(3, 0, 3, 300);
+            due("of 10, 11, 10, 12 and 10 for 1", x.cheapest(1, 2, 10), 0);
+            due("of 10, 11, 10, 12 and 10 for 0", x.cheapest(0, 2, 10), 2);
+            x.leave(2);
+            due("of 11, 12 and 10", x.cheapest(0, 2, 10), 4);
+            x.leave(4);
+            due("of 11 and 12", x.cheapest(0, 2, 10), 1);
+            due("of 12 and 11", x.cheapest(0, 3, 10), 3);
+        });
+        holds("cheapest: the one whose value is least (though another one has the least balance)", () -> {
+            joinBare(x, 3);
+            x.give(2, 1, 0, 300);
+            x.give(1, 2, 3, 600);
+            due("of 10 at 300 and 11 at -300", x.cheapest(0, 0, 10), 1);
+            due("of 10 and 10", x.cheapest(0, 1, 10), 2);
+        });
+        holds("cheapest: of several the one with the least balance (at a rate above 10)", () -> {
+            joinBare(x, 3);
+            x.give(1, 0, 0, 300);
+            x.give(2, 0, 0, 300);
+            x.set(0, 9999);
+            due("of 11 at 300 and 11 at 300", x.cheapest(0, 0, 10), 1);
+            x.give(1, 2, 1, 1);
+            due("of 11 at 301 and 11 at 299", x.cheapest(0, 0, 10), 2);
+        });
         holds("cheapest: of several the one with the least balance", () -> {
             joinBare(x, 4);
             x.give(3, 1, 0, 2);
@@ -771,6 +824,14 @@ public final class RipeHoursAnswersTest extends SentenceChecks {
             x.leave(0);
             due("up to the limit by its value", x.cheapest(2, 0, 9), 1);
             due("above the limit by its value", x.cheapest(2, 0, 10), NONE);
+        });
+        holds("cheapest: and whose deal would not be refused (in another skill)", () -> {
+            joinBare(x, 2);
+            x.give(1, 0, 3, 300);
+            x.set(0, 310);
+            due("up to the limit by its value", x.cheapest(0, 3, 9), 1);
+            due("above the limit by its value", x.cheapest(0, 3, 10), NONE);
+            due("up to the limit in a skill without practice", x.cheapest(0, 0, 10), 1);
         });
         holds("cheapest: NONE if there is none", () -> {
             joinBare(x, 3);

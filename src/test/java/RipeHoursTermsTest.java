@@ -192,6 +192,8 @@ public final class RipeHoursTermsTest extends SentenceChecks {
         holds("but at most what is left of the loan", () -> atMostWhatIsLeft());
         holds("Of each value that a member with a loan earns (without one, nothing)", () -> nothingWithoutALoan());
         holds("and the loan is less by it (of who earns, by earning alone)", () -> loanIsPaidByEarningAlone());
+        holds("Of each value that a member with a loan earns (of the value, not of the minutes)",
+            () -> halfOfTheValue());
     }
 
     private static void newcomersGetTheLoan() {
@@ -257,6 +259,19 @@ public final class RipeHoursTermsTest extends SentenceChecks {
         x.pass(6);
         due("loan after a decay", loan(1), 120);
         due("loan of the giver", loan(0), 115);
+    }
+
+    private static void halfOfTheValue() {
+        x.set(1, 999);
+        join(x, 3);
+        x.give(2, 1, 0, 600);
+        due("loan after a value of 600", loan(2), 999 - 300);
+        x.give(2, 0, 0, 100);
+        due("loan after a value of 120", loan(2), 999 - 300 - 60);
+        due("balance", balance(2), 999 + 300 + 60);
+        due("the common account", x.count(2), -2997 + 360);
+        due("loan of the member 0", loan(0), 999);
+        due("balance of the member 0", balance(0), 999 - 120);
     }
 
     // ---- Deals
@@ -648,6 +663,8 @@ public final class RipeHoursTermsTest extends SentenceChecks {
         holds("it has failed, and is gone (nothing is forgiven)", () -> nothingIsForgiven());
         holds("Where there are no other members, it is neither", () -> neitherWithoutOthers());
         holds("the motion is gone (its votes, too)", () -> votesGoWithTheMotion());
+        holds("the motion is gone (the votes of the first and the last member, too)",
+            () -> votesOfAllGoWithTheMotion());
     }
 
     private static void oneMotion() {
@@ -782,6 +799,30 @@ public final class RipeHoursTermsTest extends SentenceChecks {
         x.give(1, 0, 0, 1);
         x.move(0, 1);
         dueMotion(0, 1, 0, 0);
+    }
+
+    /** The first and the last member vote, and the motion goes each way it can. */
+    private static void votesOfAllGoWithTheMotion() {
+        Call[] ends = {bank -> bank.takeBack(), bank -> bank.vote(4, false), bank -> bank.vote(3, true),
+            bank -> bank.give(1, 2, 0, 50) - bank.leave(1)};
+        for (int i = 0; i < ends.length; i++) {
+            x = new RipeHours();
+            joinBare(x, 8);
+            x.give(0, 1, 0, 50);
+            x.move(1, 50);
+            x.vote(0, true);
+            x.vote(7, true);
+            x.vote(6, false);
+            x.vote(5, false);
+            x.vote(2, i != 1);
+            ends[i].on(x);
+            dueNoMotion();
+            x.give(3, 4, 0, 1);
+            x.move(4, 1);
+            dueMotion(4, 1, 0, 0);
+            due("0 can vote", x.member(0, 11), 1);
+            due("7 can vote", x.member(7, 11), 1);
+        }
     }
 
     private static void forgivingWhenSomeoneLeaves() {
@@ -1039,6 +1080,7 @@ public final class RipeHoursTermsTest extends SentenceChecks {
         holds("Each method that is marked (the others save nothing)", () -> otherCallsDoNotSave());
         holds("(also if it changes nothing)", () -> savesWhereNothingChanges());
         holds("all, also what is counted so far", () -> allIsRestored());
+        holds("all (of each member and skill)", () -> allOfEachMemberIsRestored());
         holds("but the buffer", () -> bufferIsNotRestored());
         holds("and the saved states", () -> savedStatesAreNotRestored());
         holds("At most 6 states are saved", () -> atMostSixStates());
@@ -1159,6 +1201,44 @@ public final class RipeHoursTermsTest extends SentenceChecks {
         due("minutes taken", x.member(1, 6), 0);
         due("values earned", x.member(0, 7), 0);
         due("values paid", x.member(1, 8), 0);
+    }
+
+    private static void allOfEachMemberIsRestored() {
+        join(x, 8);
+        for (int m = 0; m < 8; m++) {
+            for (int skill = 0; skill < 5; skill++) {
+                x.give(m, (m + 1 + skill % 2) % 8, skill, 31 + 10 * m + skill);
+            }
+        }
+        x.pass(3);
+        x.give(0, 7, 0, 600);
+        x.give(2, 3, 0, 200);
+        x.pass(6);
+        x.move(7, 2);
+        for (int m = 0; m < 4; m++) {
+            x.vote(m, true);
+        }
+        x.give(6, 5, 1, 3);
+        x.give(4, 5, 1, 3);
+        due("the sum that was forgiven", x.count(3), 2);
+        due("the decayed minutes", x.member(0, 9) > 0 ? 1 : 0, 1);
+        long before = hashOfMembers();
+        x.pass(9);
+        x.undo();
+        due("the members after pass() and undo()", hashOfMembers(), before);
+    }
+
+    private static long hashOfMembers() {
+        long hash = 0;
+        for (int m = 0; m < 8; m++) {
+            for (int what = 0; what < 12; what++) {
+                hash = 31 * hash + x.member(m, what);
+            }
+            for (int skill = 0; skill < 5; skill++) {
+                hash = 31 * hash + practice(m, skill);
+            }
+        }
+        return hash;
     }
 
     private static void bufferIsNotRestored() {
