@@ -1137,7 +1137,7 @@ public final class RipeHoursAnswersTest extends SentenceChecks {
             due("with a motion", x.digest(), hashByCalls(0));
         });
         holds("digest: the bits of minuteWorth (as Double.doubleToLongBits)", () -> {
-            joinBare(x, 3);
+            joinBare(x, 2);
             x.set(0, 9999);
             int[] minutes = {600, 1, 7, 13, 99, 333};
             for (int one : minutes) {

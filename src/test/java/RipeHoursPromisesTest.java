@@ -101,7 +101,7 @@ public final class RipeHoursPromisesTest {
     }
 
     private static int errorOf(String signs) {
-        x.clearBuffer();
+        x = new RipeHours();
         type(signs);
         return x.firstError();
     }
@@ -708,17 +708,22 @@ public final class RipeHoursPromisesTest {
         return hash;
     }
 
-    private static void undoingWhatIsCounted() {
+    private static void voteOfFour() {
+        x = new RipeHours();
         join(4);
         x.give(0, 1, 0, 310);
         x.give(2, 1, 1, 10);
         x.pass(2);
         x.move(1, 200);
         x.vote(0, true);
+    }
+
+    private static void undoingWhatIsCounted() {
         Runnable[] calls = {() -> x.vote(2, true), () -> x.vote(2, false), () -> x.takeBack(), () -> x.leave(0),
             () -> x.leave(2), () -> x.donate(2, 3), () -> x.pass(9), () -> x.give(3, 0, 2, 77), () -> x.join(),
             () -> x.set(4, 5), () -> x.set(0, 5), () -> runText("a>c0:5;b>a1:9")};
         for (int i = 0; i < calls.length; i++) {
+            voteOfFour();
             long before = digestWithoutSaved();
             calls[i].run();
             x.undo();
@@ -726,8 +731,8 @@ public final class RipeHoursPromisesTest {
             calls[i].run();
             x.undo();
             due("undo() of call " + i + ", twice", digestWithoutSaved(), before);
+            due("vote after undo()", x.vote(2, true), 1);
         }
-        due("vote after undo()", x.vote(2, true), 1);
     }
 
     private static void runText(String signs) {
@@ -1056,35 +1061,57 @@ public final class RipeHoursPromisesTest {
         return due31(hash, Double.doubleToLongBits(x.minuteWorth()));
     }
 
-    private static void digests() {
-        due("digest()", x.digest(), due31(digestByCalls(), 0));
-        type("a>");
-        due("digest()", x.digest(), due31(due31(due31(digestByCalls(), 2), 'a'), '>'));
-        x.clearBuffer();
-        join(4);
+    /** A new object with four members, and so many pairs of deals in the skill 1. */
+    private static void dealsOf(int many) {
         int[] minutes = {300, 19, 7, 33, 111, 1, 600};
+        x = new RipeHours();
+        join(4);
         x.set(0, 9999);
-        for (int i = 0; i < minutes.length; i++) {
+        for (int i = 0; i < many && i < minutes.length; i++) {
             x.give(i % 3, 3, 1, minutes[i]);
             x.give(1, 3, 1, minutes[i]);
-            due("digest()", x.digest(), due31(digestByCalls(), 0));
         }
+    }
+
+    private static void dealsAndMotion() {
+        dealsOf(7);
         x.set(0, 40);
         x.move(3, 200);
         x.vote(0, true);
         x.leave(2);
-        due("digest()", x.digest(), due31(digestByCalls(), 0));
+    }
+
+    private static void dealsAndDecay() {
+        dealsAndMotion();
         x.set(3, 50);
         x.pass(7);
-        due("digest()", x.digest(), due31(digestByCalls(), 0));
-        joinBare(1);
+    }
+
+    private static void dueDigest(String when) {
+        due("digest() " + when, x.digest(), due31(digestByCalls(), 0));
+    }
+
+    private static void digests() {
+        dueDigest("of a new object");
+        type("a>");
+        due("digest()", x.digest(), due31(due31(due31(digestByCalls(), 2), 'a'), '>'));
+        for (int many = 1; many <= 7; many++) {
+            dealsOf(many);
+            dueDigest("with deals");
+        }
+        dealsAndMotion();
+        dueDigest("with a motion");
+        dealsAndDecay();
+        dueDigest("with a decay");
         for (int room = 58; room <= 120; room++) {
+            dealsAndDecay();
+            joinBare(1);
             x.set(0, room);
-            due("digest() where " + room + " are the limit", x.digest(), due31(digestByCalls(), 0));
+            dueDigest("where " + room + " are the limit");
         }
         join(3);
-        due("digest() of eight", x.digest(), due31(digestByCalls(), 0));
         long before = x.digest();
+        dueDigest("of eight");
         due("nothing is changed", x.digest(), before);
     }
 }
