@@ -1,3 +1,4 @@
+import java.io.DataInputStream;
 import java.io.IOException;
 import java.lang.reflect.Constructor;
 import java.lang.reflect.Field;
@@ -39,6 +40,12 @@ public final class RipeHoursLanguageTest {
         "\\bThread\\b", "\\bRandom\\b", "\\bnew \\w+\\[\\]\\s*\\{", "\\bstatic\\s*\\{",
         "throw new (?!(IllegalStateException|IllegalArgumentException|IndexOutOfBoundsException)\\()"};
 
+    /** All of the library that the class calls; whoever needs more looks whether rule 4 lists it. */
+    private static final Set<String> LIBRARY = Set.of("java/lang/Object.<init>()V", "java/lang/Math.min(II)I",
+        "java/lang/Math.max(II)I", "java/lang/IllegalStateException.<init>(Ljava/lang/String;)V",
+        "java/lang/IllegalArgumentException.<init>(Ljava/lang/String;)V",
+        "java/lang/IndexOutOfBoundsException.<init>(Ljava/lang/String;)V");
+
     private static int wrong = 0;
 
     public static void main(String[] args) throws IOException {
@@ -47,6 +54,7 @@ public final class RipeHoursLanguageTest {
         faceIsTheDocuments();
         methodsAreShort(text);
         classesAreFew(text);
+        libraryIsTheListed();
         System.out.println(wrong == 0 ? "the class keeps to the language" : wrong + " rules are broken");
         if (wrong != 0) {
             System.exit(1);
@@ -163,6 +171,53 @@ public final class RipeHoursLanguageTest {
             }
             if (one != RipeHours.class && !Modifier.isStatic(one.getModifiers())) {
                 broken("not static: " + one);
+            }
+        }
+    }
+
+    private static void libraryIsTheListed() throws IOException {
+        List<Class<?>> classes = new ArrayList<>(List.of(RipeHours.class.getDeclaredClasses()));
+        classes.add(RipeHours.class);
+        for (Class<?> one : classes) {
+            try (DataInputStream in = new DataInputStream(
+                    one.getResourceAsStream("/" + one.getName() + ".class"))) {
+                refersToTheListed(one, in);
+            }
+        }
+    }
+
+    /** Reads the constants of a compiled class: what it refers to stands there, whatever its text looks like. */
+    private static void refersToTheListed(Class<?> one, DataInputStream in) throws IOException {
+        in.readInt();
+        in.readInt();
+        int size = in.readUnsignedShort();
+        int[] kinds = new int[size];
+        int[] firsts = new int[size];
+        int[] seconds = new int[size];
+        String[] texts = new String[size];
+        for (int i = 1; i < size; i++) {
+            kinds[i] = in.readUnsignedByte();
+            switch (kinds[i]) {
+                case 1: texts[i] = in.readUTF(); break;
+                case 3: case 4: in.readInt(); break;
+                case 5: case 6: in.readLong(); i++; break;
+                case 7: case 8: firsts[i] = in.readUnsignedShort(); break;
+                case 9: case 10: case 11: case 12:
+                    firsts[i] = in.readUnsignedShort();
+                    seconds[i] = in.readUnsignedShort();
+                    break;
+                default:
+                    broken(one + " has a constant of kind " + kinds[i] + ", as of a lambda or of texts joined by +");
+                    return;
+            }
+        }
+        for (int i = 1; i < size; i++) {
+            if (kinds[i] >= 9 && kinds[i] <= 11) {
+                String owner = texts[firsts[firsts[i]]];
+                String name = owner + "." + texts[firsts[seconds[i]]] + texts[seconds[seconds[i]]];
+                if (!owner.startsWith("RipeHours") && !LIBRARY.contains(name)) {
+                    broken(one + " refers to " + name);
+                }
             }
         }
     }
